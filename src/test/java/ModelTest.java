@@ -42,17 +42,20 @@ public final class ModelTest {
   private String blanks() { return " ".repeat(1 + below(15) / 14); }
   private int measure(int mid, int spread) { return Math.max(0, Math.min(30, mid + below(2 * spread + 1) - spread)); }
 
+  private String three(int mid, int spread) {
+    return blanks() + measure(mid, spread) + blanks() + measure(mid, spread) + blanks() + measure(mid, spread);
+  }
+
   private String statement(int mid, int spread) {
-    String three = blanks() + measure(mid, spread) + blanks() + measure(mid, spread) + blanks() + measure(mid, spread);
-    switch (below(12)) {
+    switch (below(14)) {
       case 0: return "waste " + below(3) + " " + below(3) + " " + below(10);
       case 1: return "over " + below(8) + " " + below(12) + " " + below(31);
       case 2: return "out " + below(100);
       case 3: return "grow " + below(10);
       case 4: case 5: case 6: case 7:
-        return "foot" + three + (below(2) == 0 ? " times " + (1 + below(9)) : "")
+        return "foot" + three(mid, spread) + (below(2) == 0 ? " times " + (1 + below(9)) : "")
             + (below(2) == 0 ? " give " + below(5) : "");
-      default: return "last" + three + (below(2) == 0 ? " price " + below(30) : "");
+      default: return "last" + three(mid + spread, spread) + (below(2) == 0 ? " price " + below(12) : "");
     }
   }
 
@@ -60,13 +63,25 @@ public final class ModelTest {
     StringBuilder text = new StringBuilder();
     int mid = 3 + below(25);
     int spread = 1 + below(6);
-    int statements = 1 + below(14);
+    int statements = 1 + below(20);
+    if (below(4) == 0) return "waste 1 2 0;" + crowd(mid);
     for (int i = 0; i < statements; i++) {
       if (i > 0) text.append(';');
       text.append(statement(mid, spread));
     }
     if (below(3) == 0) spoil(text);
     return text.length() > 250 ? text.substring(0, 250) : text.toString();
+  }
+
+  /** Many small statements, so that the limits of feet and lasts are met. */
+  private String crowd(int mid) {
+    StringBuilder text = new StringBuilder();
+    for (int i = 0; i < 12; i++) {
+      text.append(below(3) == 0 ? "last" : "foot");
+      for (int k = 0; k < 3; k++) text.append(k == 0 ? "" : " ").append(mid + below(4));
+      text.append(i == 11 ? "" : ";");
+    }
+    return text.toString();
   }
 
   private void spoil(StringBuilder text) {
@@ -86,7 +101,21 @@ public final class ModelTest {
   private int l(int v) { return near(0, Math.max(0, of(v).lasts.size() - 1)); }
   private int set(int v) { return near(0, of(v).sets() - 1); }
 
+  private void copyCall() {
+    int p = below(2), q = below(3), sort = below(5), size = 1 + below(10);
+    same("row", x.row(p, sort, size), m.row(p, sort, size));
+    if (q != p) same("row", x.row(q, sort, size + 1), m.row(q, sort, size + 1));
+    for (int i = 0; i < size; i++) same("set", x.set(p, i, 3L * i - 4), m.set(p, i, 3L * i - 4));
+    int i = below(size), j = below(size), n = near(0, size - Math.max(i, j));
+    same("copy(" + p + ", " + q + ", " + i + ", " + j + ", " + n + ")", x.copy(p, q, i, j, n), m.copy(p, q, i, j, n));
+    for (int k = 0; k <= size; k++) same("element(" + q + ", " + k + ")", x.element(q, k), m.element(q, k));
+  }
+
   private void shelfCall() {
+    if (below(4) == 0) {
+      copyCall();
+      return;
+    }
     int s = s(), t = s(), i = near(0, 12), j = near(0, 12), n = near(0, 12), sort = near(0, 4), kind = near(1, 5);
     switch (below(6)) {
       case 0: { int size = near(0, 40); same("row(" + s + ", " + sort + ", " + size + ")", x.row(s, sort, size), m.row(s, sort, size)); break; }
@@ -128,7 +157,7 @@ public final class ModelTest {
     switch (below(6)) {
       case 0: { int what = near(0, 1), to = near(0, 9); same("alter(" + v + ", " + f + ", " + what + ", " + to + ")", x.alter(v, f, what, to), m.alter(v, f, what, to)); break; }
       case 1: { int what = near(0, 3), to = near(0, 40); same("carve(" + v + ", " + l + ", " + what + ", " + to + ")", x.carve(v, l, what, to), m.carve(v, l, what, to)); break; }
-      case 2: { int a = near(1, 9); same("build(" + v + ", " + l + ", " + a + ")", x.build(v, l, a), m.build(v, l, a)); break; }
+      case 2: { int a = near(1, below(2) == 0 ? 1 : 9); same("build(" + v + ", " + l + ", " + a + ")", x.build(v, l, a), m.build(v, l, a)); break; }
       case 3: same("year(" + v + ")", x.year(v), m.year(v)); break;
       default: feetCall(v); break;
     }
