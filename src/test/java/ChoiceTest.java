@@ -122,6 +122,12 @@ public final class ChoiceTest {
     NineLasts all = Checks.with("foot 5 5 5;last 5 5 5;foot 9 9 9;last 9 9 9;over 1 1 1");
     c.due("none is idle", all.idle(0), -1);
     c.due("more for each", all.more(0, 0) * 100 + all.more(0, 1), 5050);
+    NineLasts ten = tenForTen();
+    c.due("all ten", ten.best(0, 10), 1023);
+    c.due("none of ten is idle", ten.idle(0), -1);
+    c.due("ten are enough", ten.enough(0, 0), 10);
+    c.due("nine are enough", ten.enough(0, 50), 9);
+    c.due("the tenth", ten.more(0, 9), 50);
     NineLasts dear = Checks.with("foot 5 5 5;last 5 5 5 price 51");
     c.due("too dear", dear.best(0, 1), 0);
     c.due("idle", dear.idle(0), 0);
@@ -142,6 +148,13 @@ public final class ChoiceTest {
     c.bad(x, "more of 10", () -> x.more(0, 10));
     c.bad(x, "enough -1", () -> x.enough(0, -1));
     c.bad(x, "enough MIN", () -> x.enough(0, MIN));
+  }
+
+  /** Ten feet, each of which one last alone does for. */
+  private static NineLasts tenForTen() {
+    StringBuilder text = new StringBuilder("over 0 0 0");
+    for (int i = 0; i < 10; i++) text.append(";foot ").append(i).append(" 1 1;last ").append(i).append(" 1 1");
+    return Checks.with(text.toString());
   }
 
   private static void changes() {
@@ -228,6 +241,14 @@ public final class ChoiceTest {
     lineIs(give, 0, 1, 4, 9);
     NineLasts many = Checks.with("foot 1 1 1;foot 2 1 1;foot 3 1 1;foot 4 1 1;foot 5 1 1;foot 6 1 1;foot 7 1 1;foot 8 1 1");
     lineIs(many, 0, 6, 2, 1, 2, 3, 4, 6, 8);
+    NineLasts twelve = Checks.with("foot 0 30 0;foot 30 0 30");
+    Checks.fill(twelve, 0, 0, 1, 1, 1, 1, 2, 2, 2, 1, 3, 3, 3, 1, 4, 4, 4, 1, 5, 5, 5, 1, 6, 6, 6, 1, 7, 7, 7, 1,
+        8, 8, 8, 1, 9, 9, 9, 1, 10, 10, 10, 1);
+    c.due("ten feet more", twelve.feet(0, 0), 10);
+    c.due("12 sizes of each", twelve.corners(0), 1728);
+    // 0 to 10 in five spans, four of two sizes and one of three: the long one last, that the first sizes be least.
+    lineIs(twelve, 0, 6, 7, 1, 3, 5, 7, 10, 30);
+    lineIs(twelve, 1, 1, 12 * 30 - 55 - 30, 30);
     for (int v : NO_VALLEY) c.bad(x, "line valley " + v, () -> x.line(v, 0, 1, 0));
     for (int m : new int[] {-1, 3, MIN, MAX}) c.bad(x, "line measure " + m, () -> x.line(0, m, 1, 0));
     for (int n : new int[] {0, 7, -1, MIN, MAX}) c.bad(x, "line n " + n, () -> x.line(0, 0, n, 0));

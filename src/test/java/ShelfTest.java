@@ -28,6 +28,9 @@ public final class ShelfTest {
     c.due("row of none", x.row(7, 2, 0), 1);
     c.due("status(2)", x.status(2), 6);
     c.due("set", x.set(3, 39, 5), 1);
+    c.due("the last element", x.element(3, 39), 5);
+    c.due("behind the last element", x.element(3, 40), 0);
+    c.bad(x, "set behind the last element", () -> x.set(3, 40, 1));
     c.due("row anew", x.row(3, 3, 40), 1);
     c.due("a new row's element", x.element(3, 39), 0);
     int[][] wrong = {{-1, 0, 0}, {8, 0, 0}, {0, -1, 0}, {0, 5, 0}, {0, 0, -1}, {0, 0, 41},

@@ -50,6 +50,13 @@ public final class ValleyTest {
     fault("outs 5", 0);
     fault("ou 5", 0);
     fault("Out 5", 0);
+    fault("out 5;outz 5", 6);
+    fault("foot 1 1 1 timesa 5", 11);
+    fault("`", 0);
+    fault("{", 0);
+    fault("out /", 4);
+    fault("out :", 4);
+    fault("out 5<", 5);
     fault("out 5.", 5);
     fault("out -5", 4);
     fault("out 5" + (char) 0, 5);
@@ -244,6 +251,10 @@ public final class ValleyTest {
     for (int a : new int[] {0, 10, -1, MIN, MAX}) c.bad(x, "build by " + a, () -> x.build(0, 1, a));
     for (int l : new int[] {-1, 10, MIN, MAX}) c.bad(x, "build last " + l, () -> x.build(0, l, 1));
     for (int v : new int[] {-1, 1, MIN, MAX}) c.bad(x, "build valley " + v, () -> x.build(v, 0, 1));
+    NineLasts just = Checks.with("last 31 31 31");
+    c.due("build up to just 40", just.build(0, 0, 9), 1);
+    c.due("B of it", just.lastOf(0, 1, 1), 40);
+    c.due("H of it", just.lastOf(0, 1, 2), 40);
     NineLasts b = Checks.with("last 1 40 1;last 1 1 40;last 32 31 31");
     c.stuck(b, "build B above", () -> b.build(0, 0, 1));
     c.stuck(b, "build H above", () -> b.build(0, 1, 1));
@@ -258,6 +269,9 @@ public final class ValleyTest {
     c.due("B", x.footOf(0, 0, 1), 1);
     c.due("year", x.year(0), 1);
     c.due("L", x.footOf(0, 0, 0), 7);
+    NineLasts slow = Checks.with("foot 1 1 1;foot 29 1 1;foot 30 1 1");
+    c.due("a year with growing by 1", slow.year(0), 2);
+    c.due("L", slow.footOf(0, 1, 0), 30);
     c.due("a year without growing", x.year(1), 0);
     c.due("L", x.footOf(1, 0, 0), 1);
     c.due("a year of no feet", x.year(2), 0);
