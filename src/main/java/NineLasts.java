@@ -1241,12 +1241,15 @@ public final class NineLasts {
 
         private void addFoot(Valley v, int foot) {
             int times = v.footPart(foot, TIMES);
+            int costOut = v.costAt(foot, NEVER);
             for (int set = 0; set < sets; set++) {
-                totals[set] += v.costAt(foot, least[set]);
-                if (least[set] == NEVER) {
+                int badness = least[set];
+                if (badness == NEVER) {
+                    totals[set] += costOut;
                     missed[set] += times;
                 } else {
-                    worst[set] = Math.max(worst[set], least[set]);
+                    totals[set] += times * badness;
+                    worst[set] = Math.max(worst[set], badness);
                 }
             }
         }
@@ -1331,10 +1334,12 @@ public final class NineLasts {
         }
 
         private int leastTotalWithout(Valley v, int foot, int n) {
+            int times = v.footPart(foot, TIMES);
+            int costOut = v.costAt(foot, NEVER);
             int found = 0;
-            int leastSum = totals[0] - v.costAt(foot, least[0]);
+            int leastSum = totals[0] - costOut;
             for (int set = 1; set < sets; set++) {
-                int sum = totals[set] - v.costAt(foot, least[set]);
+                int sum = totals[set] - (least[set] == NEVER ? costOut : times * least[set]);
                 if (sum < leastSum && Integer.bitCount(set) <= n) {
                     found = set;
                     leastSum = sum;
@@ -1420,17 +1425,21 @@ public final class NineLasts {
         }
     }
 
-    /** Goes through all corners of a valley, one measure after the other, so that shares are asked but once. */
+    /** Goes through all corners of a valley; there may be 1728, so each share is asked but once, ahead. */
     private static final class CornerSeeker {
         final int[] found = new int[MEASURES];
         int number = NONE;
         int least = NEVER;
         private final int[][] sizes = new int[MEASURES][MAX_FEET];
+        // shares[m][i * MAX_FEET + foot]: what size i of measure m is to a foot.
+        private final int[][] shares = new int[MEASURES][MAX_FEET * MAX_FEET];
         private final int[] counts = new int[MEASURES];
         private final int[] none = new int[MAX_FEET];
         private final int[] byL = new int[MAX_FEET];
         private final int[] byB = new int[MAX_FEET];
-        private final int[] byH = new int[MAX_FEET];
+        private final int[] times = new int[MAX_FEET];
+        private int footCount = 0;
+        private int outCost = 0;
 
         int countIn(Valley v) {
             int product = 1;
@@ -1443,16 +1452,16 @@ public final class NineLasts {
 
         void seekIn(Valley v) {
             countIn(v);
+            readFeet(v);
             number = NONE;
             least = NEVER;
             int passed = 0;
             for (int l = 0; l < counts[L]; l++) {
-                addShares(v, L, sizes[L][l], none, byL);
+                addShares(L, l, none, byL);
                 for (int b = 0; b < counts[B]; b++) {
-                    addShares(v, B, sizes[B][b], byL, byB);
+                    addShares(B, b, byL, byB);
                     for (int h = 0; h < counts[H]; h++) {
-                        addShares(v, H, sizes[H][h], byB, byH);
-                        int sum = sumOf(v);
+                        int sum = sumWith(h);
                         if (sum < least) {
                             least = sum;
                             number = passed;
@@ -1466,17 +1475,32 @@ public final class NineLasts {
             }
         }
 
-        private static void addShares(Valley v, int measure, int size, int[] before, int[] after) {
-            for (int foot = 0; foot < v.footCount; foot++) {
-                int share = before[foot] == NEVER ? NONE : v.share(foot, measure, 0, size);
-                after[foot] = share == NONE ? NEVER : before[foot] + share;
+        private void readFeet(Valley v) {
+            footCount = v.footCount;
+            outCost = v.outCost;
+            for (int foot = 0; foot < footCount; foot++) {
+                times[foot] = v.footPart(foot, TIMES);
+                for (int m = 0; m < MEASURES; m++) {
+                    for (int i = 0; i < counts[m]; i++) {
+                        shares[m][i * MAX_FEET + foot] = v.share(foot, m, 0, sizes[m][i]);
+                    }
+                }
             }
         }
 
-        private int sumOf(Valley v) {
+        private void addShares(int measure, int size, int[] before, int[] after) {
+            for (int foot = 0; foot < footCount; foot++) {
+                int share = shares[measure][size * MAX_FEET + foot];
+                after[foot] = share == NONE || before[foot] == NEVER ? NEVER : before[foot] + share;
+            }
+        }
+
+        private int sumWith(int h) {
             int sum = 0;
-            for (int foot = 0; foot < v.footCount; foot++) {
-                sum += v.costAt(foot, byH[foot]);
+            for (int foot = 0; foot < footCount; foot++) {
+                int share = shares[H][h * MAX_FEET + foot];
+                boolean isOut = share == NONE || byB[foot] == NEVER;
+                sum += times[foot] * (isOut ? outCost : byB[foot] + share);
             }
             return sum;
         }
