@@ -790,9 +790,8 @@ public final class NineLasts {
         /** The share of one measure in BADNESS, by a foot grown by so much; NONE: the size does not do. */
         int share(int foot, int measure, int grown, int size) {
             int own = footPart(foot, measure) + grown;
-            // The document's "no more than that and over of it": "that" is the whole bound before it.
-            int least = own - footPart(foot, GIVE);
-            if (size < least || size > least + over[measure]) {
+            // Too big is said of the foot's own measure: give lets a smaller last do and takes nothing from over.
+            if (size < own - footPart(foot, GIVE) || size > own + over[measure]) {
                 return NONE;
             }
             return size > own ? waste[measure] * (size - own) : 0;

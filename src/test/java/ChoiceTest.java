@@ -24,11 +24,11 @@ public final class ChoiceTest {
     }
   }
 
-  /** Of a foot of 10 that gives 2, with over 3: from 8 on, and "that and over" is 8 and 3. */
+  /** Of a foot of 10 that gives 2, with over 3: from 8 up to 13. */
   private static void edges() {
     for (int measure = 0; measure < 3; measure++) {
       NineLasts x = Checks.with("foot 10 10 10 give 2;last 10 10 10;over 3 3 3;waste 2 2 2");
-      int[] due = {-1, 0, 0, 0, 2, -1, -1, -1};
+      int[] due = {-1, 0, 0, 0, 2, 4, 6, -1};
       for (int size = 7; size <= 14; size++) {
         x.carve(0, 0, measure, size);
         c.due("bad of " + size + " in " + measure, x.bad(0, 0, 0), due[size - 7]);
@@ -40,6 +40,48 @@ public final class ChoiceTest {
         c.due("bad of " + size + " in " + measure, y.bad(0, 0, 0), stiff[size - 9]);
       }
     }
+  }
+
+  /** The foot gives 2; LAST 0 is above it by just over (6 for 3), LAST 1 by one more: give takes nothing from over. */
+  private static final String GIVES = "foot 10 5 5 times 2 give 2;last 13 5 5 price 1;last 14 5 5;over 3 3 3;"
+      + "waste 2 1 1;out 20;grow 1";
+
+  private static void giveLeavesOver() {
+    NineLasts x = Checks.with(GIVES, "foot 20 5 5;last 13 5 5 price 5;last 14 5 5;over 30 30 30;out 7");
+    c.due("does by just over", x.does(0, 0, 0), 1);
+    c.due("does not by more", x.does(0, 1, 0), 0);
+    c.due("bad by just over", x.bad(0, 0, 0), 6);
+    c.due("bad by more", x.bad(0, 1, 0), -1);
+    c.due("whose", x.whose(0, 0, 3), 0);
+    c.due("whose of the other", x.whose(0, 0, 2), -1);
+    int[] totals = {40, 13, 40, 13};
+    for (int set = 0; set < 4; set++) {
+      c.due("total of " + set, x.total(0, set), totals[set]);
+      c.due("out by " + set, x.out(0, set), 1 - set % 2);
+    }
+    Checks.fill(x, 0, 2, 0);
+    c.due("judge", x.judge(0, 3, 0), -1);
+    c.due("judge by the other", x.judge(0, 2, 0), 0);
+    c.due("best", x.best(0, 1), 1);
+    c.due("more", x.more(0, 0), 27);
+    c.due("enough 13", x.enough(0, 13), 1);
+    c.due("enough 12", x.enough(0, 12), -1);
+    c.due("changed", x.changed(0, 2), 1);
+    c.due("bound", x.bound(0), 12);
+    c.due("fair", x.fair(0, 1), 1);
+    c.due("shod", x.shod(0, 1), 1);
+    c.due("keeps till 15 less 2", x.keeps(0, 0, 5), 1);
+    c.due("keeps no longer", x.keeps(0, 0, 6), 0);
+    // A last of the other valley, by this one's over: 12 and its price, and the other's foot is OUT.
+    c.due("lend", x.lend(0, 1, 0, 1), 12 + 5 + 7);
+    c.due("lend what is too big", x.lend(0, 1, 0, 2), 40 + 7);
+    c.due("doubt", x.doubt(0, 1), 28);
+    c.due("idle", x.idle(0), 1);
+    x.begin(0, 1);
+    c.due("step", x.step(2), 13);
+    c.due("search", x.search(3), 1);
+    NineLasts y = Checks.with("foot 10 5 5 give 2;foot 13 5 5;over 3 3 3");
+    cornerIs(y, 2, 1, 3, 13, 5, 5);
   }
 
   private static void sets() {
@@ -435,6 +477,7 @@ public final class ChoiceTest {
   public static void main(String[] args) {
     badness();
     edges();
+    giveLeavesOver();
     sets();
     judges();
     bests();

@@ -49,7 +49,7 @@ final class PlainModel {
       int sum = 0;
       for (int i = 0; i < 3; i++) {
         int low = foot.m(i) - foot.give();
-        int high = low + over[i];
+        int high = foot.m(i) + over[i];
         if (last.m(i) < low || last.m(i) > high) return NONE;
         sum += waste[i] * Math.max(0, last.m(i) - foot.m(i));
       }

@@ -157,8 +157,8 @@ public final class ShelfTest {
     tried(x, 1, 1, 0, 0, 0, -1);
     tried(x, 2, 1, 0, 0, 0, -1);
     tried(x, 2, 1, 1, 6, 2, -1);
-    tried(x, 2, 1, 2, 13, -1, -1);
-    tried(x, 2, 1, 3, 19, -1, -1);
+    tried(x, 2, 1, 2, 13, 8, -1);
+    tried(x, 2, 1, 3, 19, 14, -1);
     tried(x, 2, 1, 4, -1, -1, -1);
     tried(x, 3, 0, 2, -1, -1, 0);
     tried(x, 3, 0, 0, 0, -1, -1);
@@ -175,6 +175,21 @@ public final class ShelfTest {
     tried(y, 5, 0, 1, 0);
     NineLasts z = Checks.with("foot 30 5 4;last 39 9 4;grow 9");
     tried(z, 5, 0, 1, 0);
+    // A foot that gives: every tool may be above it by just over, as the last itself may.
+    NineLasts gives = Checks.with("foot 10 5 5 give 2;last 13 8 8;last 12 7 7;last 11 8 8;over 3 3 3;grow 2");
+    tried(gives, 1, 0, 0, 9);
+    tried(gives, 2, 0, 1, -1);
+    tried(gives, 2, 1, 1, 9);
+    tried(gives, 2, 1, 2, -1);
+    tried(gives, 4, 0, 0, 18);
+    tried(gives, 4, 0, 1, -1);
+    tried(gives, 4, 2, 1, 14);
+    gives.carve(0, 0, 0, 15);
+    gives.carve(0, 0, 1, 9);
+    tried(gives, 1, 0, 0, -1);
+    tried(gives, 5, 0, 1, 9);
+    gives.carve(0, 0, 0, 16);
+    tried(gives, 5, 0, 1, -1);
     NineLasts far = Checks.with("foot 30 30 30 ;last 40 40 40;over 30 30 30;waste 9 9 9");
     tried(far, 2, 0, 20, 3 * 9 * 30 + 10);
     tried(far, 2, 0, 21, -1);
