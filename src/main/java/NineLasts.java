@@ -52,7 +52,7 @@ public final class NineLasts {
     private static final int TOOL_BASE = 10;
     private static final int TOOL_MOST = 30;
 
-    private static final int NEVER = Integer.MAX_VALUE;
+    private static final int NEVER = 0x7fffffff;
 
     private final Tape tape = new Tape();
     private final Reader reader = new Reader(tape);

@@ -349,6 +349,8 @@ public final class ChoiceEdgeTest {
     e.due("of 0", x.shod(0, 0), 0);
     e.due("three of one foot, whatever it costs", x.shod(0, 1), 2);
     for (int n = 2; n <= 10; n++) e.due("all, of " + n, x.shod(0, n), 3);
+    NineLasts two = Edge.with("foot 1 1 1 times 2;foot 2 2 2 times 2;foot 20 20 20 times 3;last 20 20 20;last 2 2 2 price 99");
+    e.due("two feet, twice each, are more than three of one", two.shod(0, 1), 2);
     NineLasts ten = tenForTen();
     for (int n = 0; n <= 10; n++) e.due("of ten " + n, ten.shod(0, n), (1 << n) - 1);
     e.due("nobody can be shod, and it costs", Edge.with("foot 9 9 9;last 1 1 1 price 1").shod(0, 1), 0);
@@ -550,6 +552,13 @@ public final class ChoiceEdgeTest {
     NineLasts none = Edge.with("out 1", "last 1 1 1 price 9");
     lends(none, 0, 1, 9);
     lends(none, 0, 0, 0);
+    NineLasts many = twelve("last 11 11 11;over 0 0 0;out 3");
+    Checks.tell(many, "foot 0 0 0 times 5;foot 11 11 11 times 4;foot 2 2 2;last 0 0 0;over 0 0 0;out 7");
+    many.valley();
+    lends(many, 0, 0, 12 * 6 + 10 * 7);
+    lends(many, 1, 0, 11 * 6 + 6 * 7);
+    lends(many, 0, 1, 11 * 6 + 5 * 7);
+    lends(many, 1, 1, 10 * 6 + 1 * 7);
     NineLasts dear = Edge.with("foot 5 5 5;last 5 5 5 price 99;out 1", "last 6 5 5");
     lends(dear, 1, 1, 99);
     lends(dear, 0, 1, 1);
@@ -625,7 +634,53 @@ public final class ChoiceEdgeTest {
     e.due("no feet", Edge.with("last 1 1 1").doubt(0, 10), 0);
     e.due("no lasts", Edge.with("foot 1 1 1").doubt(0, 10), 0);
     e.due("ten for ten", tenForTen().doubt(0, 10), 500);
+    e.due("twelve, one of whom is measured in vain", twelve("last 11 11 11;over 0 0 0").doubt(0, 1), 100);
     e.badBeyond("doubt of", Edge::rich, 0, 10, (z, n) -> z.doubt(0, n));
+  }
+
+  /** All that a valley is asked for as a whole; the corner ahead of how many there are. */
+  private static String all(NineLasts x) {
+    StringBuilder all = new StringBuilder();
+    for (int w = 0; w < 5; w++) all.append(' ').append(x.corner(0, w));
+    all.append(' ').append(x.corners(0)).append(" | ").append(x.bound(0)).append(' ').append(x.idle(0));
+    for (int n = 0; n <= 3; n++) {
+      all.append(" | ").append(x.fair(0, n)).append(' ').append(x.shod(0, n)).append(' ').append(x.best(0, n));
+      all.append(' ').append(x.more(0, n)).append(' ').append(x.doubt(0, n)).append(' ').append(x.enough(0, 40 * n));
+    }
+    for (int set = 0; set < 4; set++) all.append(' ').append(x.changed(0, set));
+    for (int m = 0; m < 3; m++) all.append(" | ").append(x.line(0, m, 2, 0)).append(' ').append(x.line(0, m, 2, 10));
+    return all.toString();
+  }
+
+  private static void sameAs(String what, NineLasts x, String text) {
+    String got = all(x);
+    String want = all(Edge.with(text));
+    e.due(what + ":" + got + " is as" + want, got.equals(want) ? 1 : 0, 1);
+  }
+
+  private static void asItIs() {
+    e.of("(a VALLEY is asked as it is now: nothing of an earlier answer stays)");
+    NineLasts x = Edge.with("foot 5 5 5 times 2;foot 9 9 9;last 5 5 5;last 8 8 8;over 4 4 4");
+    sameAs("at first", x, "foot 5 5 5 times 2;foot 9 9 9;last 5 5 5;last 8 8 8;over 4 4 4");
+    x.carve(0, 1, 0, 9);
+    x.carve(0, 1, 1, 9);
+    x.carve(0, 1, 2, 9);
+    sameAs("carved", x, "foot 5 5 5 times 2;foot 9 9 9;last 5 5 5;last 9 9 9;over 4 4 4");
+    x.carve(0, 0, 3, 30);
+    x.alter(0, 0, 0, 5);
+    sameAs("dearer, and more", x, "foot 5 5 5 times 5;foot 9 9 9;last 5 5 5 price 30;last 9 9 9;over 4 4 4");
+    x.image();
+    Checks.fill(x, 0, 0, 20, 20, 20, 9);
+    x.feet(0, 0);
+    sameAs("a foot more", x, "foot 5 5 5 times 5;foot 9 9 9;foot 20 20 20 times 9;last 5 5 5 price 30;last 9 9 9;over 4 4 4");
+    x.back();
+    sameAs("a foot less", x, "foot 5 5 5 times 5;foot 9 9 9;last 5 5 5 price 30;last 9 9 9;over 4 4 4");
+    x.build(0, 0, 1);
+    sameAs("a last more", x, "foot 5 5 5 times 5;foot 9 9 9;last 5 5 5 price 30;last 9 9 9;last 6 6 6 price 31;over 4 4 4");
+    x.back();
+    x.year(0);
+    x.alter(0, 0, 1, 1);
+    sameAs("a last less, a year later", x, "foot 6 5 5 times 5 give 1;foot 10 9 9;last 5 5 5 price 30;last 9 9 9;over 4 4 4");
   }
 
   private static void idles() {
@@ -691,6 +746,7 @@ public final class ChoiceEdgeTest {
     enoughOf();
     doubts();
     idles();
+    asItIs();
     e.end("ChoiceEdgeTest");
   }
 }

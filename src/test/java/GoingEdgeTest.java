@@ -256,6 +256,11 @@ public final class GoingEdgeTest {
     x.feet(2, 0);
     x.back();
     e.due("the later image", x.valleyOf(2, 0), 1);
+    NineLasts least = threeBegun(3, 3);
+    least.image();
+    e.due("till the end", least.step(999), 7);
+    least.back();
+    e.due("the least as it was kept", least.step(1), 10);
     NineLasts done = threeBegun(3, 8);
     done.image();
     done.begin(0, 1);

@@ -106,7 +106,7 @@ public final class LanguageTest {
     while (imports.find()) must(imports.group(1).equals("java.util.Arrays"), "imports " + imports.group(1));
     Matcher calls = Pattern.compile("\\b(Arrays|Math|Integer|Long|String)\\.(\\w+)").matcher(bare);
     Set<String> allowed = Set.of("Arrays.fill", "Arrays.copyOf", "Arrays.copyOfRange", "Math.min", "Math.max", "Math.abs",
-        "Integer.bitCount", "Integer.MAX_VALUE");
+        "Integer.bitCount");
     while (calls.find()) must(allowed.contains(calls.group()), "uses " + calls.group());
     lengths(bare);
   }

@@ -366,6 +366,12 @@ public final class ShelfEdgeTest {
     for (int a : new int[] {1, 3, 29})
       for (int last = 0; last < 6; last++) tries(x, 4, last, a, due[last]);
     tries(x, 4, 2, 2, 4);
+    // L alone is asked, not B or H.
+    NineLasts flat = Edge.with("foot 10 2 3;last 11 4 6;last 12 2 3");
+    tries(flat, 4, 0, 1, 12);
+    tries(flat, 4, 1, 1, -1);
+    NineLasts high = Edge.with("foot 10 20 30;last 12 20 30");
+    tries(high, 4, 0, 1, -1);
   }
 
   private static void grown() {
