@@ -78,6 +78,26 @@ public final class ChoiceEdgeTest {
     e.due("all below", Edge.with("foot 10 10 10 give 4;last 6 6 6;waste 1 2 3").bad(0, 0, 0), 0);
   }
 
+  private static void whetherItDoes() {
+    e.of("Whether a LAST DOES for a FOOT: 1, 0. .. BADNESS; NONE: it doesn't do.");
+    NineLasts x = Edge.with("foot 5 5 5;foot 7 5 5;foot 6 5 5;last 7 5 5;last 6 5 5",
+        "foot 9 9 9;foot 8 9 9;last 9 9 9;last 9 10 9;last 8 9 9;waste 2 3 4",
+        "foot 1 1 1;foot 1 1 2;foot 1 1 3;foot 1 1 4;last 1 1 4;last 1 1 3;last 1 1 2;grow 0");
+    int[][][] due = {{{2, 0, 1}, {1, -1, 0}}, {{0, 2}, {3, 5}, {-1, 0}}, {{3, 2, 1, 0}, {2, 1, 0, -1}, {1, 0, -1, -1}}};
+    for (int v = 0; v < 3; v++)
+      for (int l = 0; l < due[v].length; l++)
+        for (int f = 0; f < due[v][l].length; f++) {
+          String of = "(" + v + ", " + l + ", " + f + ")";
+          e.due("bad" + of, x.bad(v, l, f), due[v][l][f]);
+          e.due("does" + of, x.does(v, l, f), due[v][l][f] < 0 ? 0 : 1);
+          e.due("whose of that alone" + of, x.whose(v, f, 1 << l), due[v][l][f] < 0 ? -1 : l);
+        }
+    int[][] keeps = {{3, 0, 1}, {0, 3}, {7, 7, 3, 1}};
+    for (int v = 0; v < 3; v++)
+      for (int f = 0; f < keeps[v].length; f++) e.due("keeps(" + v + ", " + f + ", 1)", x.keeps(v, f, 1), keeps[v][f]);
+    e.due("nothing was refused", x.status(12), 0);
+  }
+
   private static void lastsAlone() {
     e.of("A CHOICE is a set of LASTS (bits); (a set has LASTS alone)");
     NineLasts ten = Edge.tenLasts();
@@ -267,6 +287,11 @@ public final class ChoiceEdgeTest {
     int[][] totals = {{3, 9}, {6, 2}, {10, 0}, {5, 2}, {9, 0}};
     for (int[] t : totals) e.due("total of " + t[0], x.total(0, t[0]), t[1]);
     e.due("changed from 0 and 1", x.changed(0, 3), 10);
+    // From {0, 3} 1 may come for 0 (7) or for 3 (6), and 2 as well: the lesser counts, though the former comes first.
+    NineLasts y = Edge.with("over 3 3 0;out 9;foot 4 1 1;foot 3 4 1;foot 5 4 1;last 6 1 1;last 6 4 1;last 6 4 1;last 6 2 1");
+    int[][] then = {{9, 20}, {10, 7}, {12, 7}, {3, 6}, {5, 6}};
+    for (int[] t : then) e.due("total of " + t[0], y.total(0, t[0]), t[1]);
+    e.due("changed from 0 and 3", y.changed(0, 9), 3);
   }
 
   private static void changedFirstOut() {
@@ -328,6 +353,7 @@ public final class ChoiceEdgeTest {
     NineLasts y = Edge.with("foot 5 5 5;foot 8 5 5 times 50 give 3;last 8 5 5;last 5 5 7");
     e.due("whatever times are", y.fair(0, 1), 2);
     e.due("best is the other", y.best(0, 1), 1);
+    e.due("0 is less than 1", Edge.with("foot 5 5 5;last 6 5 5;last 5 5 5 price 9").fair(0, 1), 2);
   }
 
   private static void fairLeastTotal() {
@@ -631,6 +657,10 @@ public final class ChoiceEdgeTest {
     // Without the second foot both lasts are as good and LAST 0 is chosen, by which that foot is worse by 1, three times.
     NineLasts y = Edge.with("foot 5 5 5 give 1;foot 5 5 4 times 3;last 5 5 5;last 5 5 4");
     e.due("BADNESS above BADNESS", y.doubt(0, 1), 3);
+    // The first two are alike, 4 and 2 of them, the third is another, 5: without one of the first the third is chosen.
+    NineLasts alike = Edge.with("foot 1 1 1 times 4;foot 1 1 1 times 2;foot 9 9 9 times 5;last 1 1 1;last 9 9 9;over 0 0 0");
+    e.due("one at most, with that foot and without", alike.doubt(0, 1), 4 * 50 + 2 * 50);
+    e.due("two at most", alike.doubt(0, 2), 5 * 50);
     e.due("no feet", Edge.with("last 1 1 1").doubt(0, 10), 0);
     e.due("no lasts", Edge.with("foot 1 1 1").doubt(0, 10), 0);
     e.due("ten for ten", tenForTen().doubt(0, 10), 500);
@@ -680,6 +710,11 @@ public final class ChoiceEdgeTest {
     x.back();
     x.year(0);
     x.alter(0, 0, 1, 1);
+    NineLasts two = Edge.with("foot 5 5 5;last 14 5 5;last 5 5 5", "foot 5 5 5;last 6 5 5;last 7 5 5", "foot 9 9 9;last 1 1 1", "last 1 1 1");
+    e.due("fair of one valley", two.fair(0, 1), 2);
+    e.due("fair of another", two.fair(1, 1), 1);
+    for (int i = 0; i < 3; i++) e.due("nobody is shod", two.shod(2, 1), 0);
+    for (int i = 0; i < 2; i++) e.due("nobody is there", two.fair(3, 0), 0);
     sameAs("a last less, a year later", x, "foot 6 5 5 times 5 give 1;foot 10 9 9;last 5 5 5 price 30;last 9 9 9;over 4 4 4");
   }
 
@@ -709,6 +744,7 @@ public final class ChoiceEdgeTest {
     noMore();
     wasteOfAllThree();
     notAbove();
+    whetherItDoes();
     lastsAlone();
     ownOne();
     totals();

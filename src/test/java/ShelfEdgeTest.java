@@ -420,11 +420,16 @@ public final class ShelfEdgeTest {
 
   private static void triesNone() {
     e.of("BADNESS of the TOOL in SHELF s for a FOOT of a VALLEY; NONE: it doesn't do.");
-    NineLasts x = Edge.with("foot 1 1 1;foot 5 5 5;last 6 6 6;over 4 4 4", "foot 6 6 6;last 6 6 7");
+    NineLasts x = Edge.with("foot 1 1 1;foot 5 5 5;last 6 6 6;last 5 5 5;over 4 4 4", "foot 6 6 6;last 6 6 7;last 6 6 6");
+    x.tool(0, 1, 1, 0);
+    x.tool(1, 4, 0, 0);
     x.tool(7, 1, 0, 0);
     e.due("a foot that it doesn't do for", x.tries(0, 0, 7), -1);
     e.due("the last foot", x.tries(0, 1, 7), 3);
     e.due("another valley", x.tries(1, 0, 7), 1);
+    e.due("another shelf", x.tries(0, 1, 0), 0);
+    e.due("another shelf there", x.tries(1, 0, 0), 0);
+    e.due("one more", x.tries(1, 0, 1), 2);
     e.due("nothing was refused", x.status(12) + x.status(13) + x.status(14) + x.status(15), 0);
   }
 
@@ -439,6 +444,12 @@ public final class ShelfEdgeTest {
     x.carve(0, 0, 0, 0);
     e.due("none", x.shoes(0, 0), 0);
     e.due("of no feet", x.shoes(1, 0), 0);
+    NineLasts y = Edge.with("foot 1 1 1;foot 2 2 2;foot 3 3 3;last 1 1 1;last 2 2 2;last 3 3 3;over 0 0 0",
+        "foot 3 3 3;foot 1 1 1;last 1 1 1;last 3 3 3;last 2 2 2;over 0 0 0");
+    int[][] due = {{1, 2, 4}, {2, 1, 0}};
+    for (int s = 0; s < 3; s++) y.tool(s, 1, s, 0);
+    for (int v = 0; v < 2; v++)
+      for (int s = 0; s < 3; s++) e.due("shoes(" + v + ", " + s + ")", y.shoes(v, s), due[v][s]);
   }
 
   private static void noSuchLast() {

@@ -700,6 +700,10 @@ public final class TapeEdgeTest {
     e.due("none more", x.year(0), 0);
     int[] rest = {30, 30, 9, 0};
     for (int w = 1; w <= 4; w++) e.due("the others stay", x.footOf(0, 0, w), rest[w - 1]);
+    NineLasts mixed = Edge.with("foot 30 1 1;foot 5 1 1;foot 30 1 1;foot 7 1 1;foot 28 1 1;grow 3");
+    e.due("the second, fourth and fifth", mixed.year(0), 3);
+    int[] dueMixed = {30, 8, 30, 10, 30};
+    for (int f = 0; f < 5; f++) e.due("L of " + f, mixed.footOf(0, f, 0), dueMixed[f]);
     e.due("without growing", Edge.with("foot 1 1 1;grow 0").year(0), 0);
     e.due("of no feet", Edge.with("grow 9").year(0), 0);
     NineLasts two = Edge.with("foot 1 1 1", "foot 1 1 1");
