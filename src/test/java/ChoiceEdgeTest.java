@@ -96,6 +96,11 @@ public final class ChoiceEdgeTest {
     for (int v = 0; v < 3; v++)
       for (int f = 0; f < keeps[v].length; f++) e.due("keeps(" + v + ", " + f + ", 1)", x.keeps(v, f, 1), keeps[v][f]);
     e.due("nothing was refused", x.status(12), 0);
+    NineLasts most = twelve("over 0 0 0" + ";last 1 1 1".repeat(9) + ";last 11 11 11");
+    e.due("the tenth for the twelfth", most.does(0, 9, 11), 1);
+    e.due("the tenth for the twelfth", most.bad(0, 9, 11), 0);
+    e.due("the tenth for the eleventh", most.does(0, 9, 10), 0);
+    e.due("the ninth for the twelfth", most.bad(0, 8, 11), -1);
   }
 
   private static void lastsAlone() {
@@ -658,7 +663,7 @@ public final class ChoiceEdgeTest {
     NineLasts y = Edge.with("foot 5 5 5 give 1;foot 5 5 4 times 3;last 5 5 5;last 5 5 4");
     e.due("BADNESS above BADNESS", y.doubt(0, 1), 3);
     // The first two are alike, 4 and 2 of them, the third is another, 5: without one of the first the third is chosen.
-    NineLasts alike = Edge.with("foot 1 1 1 times 4;foot 1 1 1 times 2;foot 9 9 9 times 5;last 1 1 1;last 9 9 9;over 0 0 0");
+    NineLasts alike = Edge.with("foot 1 1 1 times 4;foot 1 1 1 times 2;foot 9 9 9 times 5;last 9 9 9;last 1 1 1;over 0 0 0");
     e.due("one at most, with that foot and without", alike.doubt(0, 1), 4 * 50 + 2 * 50);
     e.due("two at most", alike.doubt(0, 2), 5 * 50);
     e.due("no feet", Edge.with("last 1 1 1").doubt(0, 10), 0);
@@ -710,12 +715,12 @@ public final class ChoiceEdgeTest {
     x.back();
     x.year(0);
     x.alter(0, 0, 1, 1);
+    sameAs("a last less, a year later", x, "foot 6 5 5 times 5 give 1;foot 10 9 9;last 5 5 5 price 30;last 9 9 9;over 4 4 4");
     NineLasts two = Edge.with("foot 5 5 5;last 14 5 5;last 5 5 5", "foot 5 5 5;last 6 5 5;last 7 5 5", "foot 9 9 9;last 1 1 1", "last 1 1 1");
     e.due("fair of one valley", two.fair(0, 1), 2);
     e.due("fair of another", two.fair(1, 1), 1);
     for (int i = 0; i < 3; i++) e.due("nobody is shod", two.shod(2, 1), 0);
     for (int i = 0; i < 2; i++) e.due("nobody is there", two.fair(3, 0), 0);
-    sameAs("a last less, a year later", x, "foot 6 5 5 times 5 give 1;foot 10 9 9;last 5 5 5 price 30;last 9 9 9;over 4 4 4");
   }
 
   private static void idles() {
